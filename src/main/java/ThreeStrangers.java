@@ -912,13 +912,13 @@ public final class ThreeStrangers {
         /** For every set: its least number stays, or rides with one of the groups it is in. */
         private void countMost() {
             most[0] = 0;
-            for (int set = 1; set <= everybody(); set++) {
+            for (int set = 1; set < 1 << people; set++) {
                 int least = set & -set;
                 int reached = most[set ^ least];
                 for (int i = 0; i < count; i++) {
                     int g = group[i];
-                    if ((g & least) != 0 && (g & set) == g) {
-                        reached = Math.max(reached, 1 + most[set ^ g]);
+                    if ((g & least) != 0 && (g & set) == g && most[set ^ g] >= reached) {
+                        reached = 1 + most[set ^ g];
                     }
                 }
                 most[set] = reached;
@@ -1130,7 +1130,7 @@ public final class ThreeStrangers {
 
     /** A day by a coachman, and the day with the least waiting; its rows are used again. */
     private static final class Day {
-        /** Coaches count as 1 beside this for waiting, so that one number orders both. */
+        /** Waiting counts so many times and each coach takes 1 off: the least has most coaches, too. */
         private static final int WEIGHT = 16;
 
         private final int[] coaches = new int[ROOM];
@@ -1236,7 +1236,7 @@ public final class ThreeStrangers {
         }
 
         int leastWaiting() {
-            return leastPrice + WEIGHT - 1 >> 4;
+            return (leastPrice + WEIGHT - 1) / WEIGHT;
         }
 
         int leastCoaches() {

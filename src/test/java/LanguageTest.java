@@ -29,6 +29,7 @@ public final class LanguageTest {
         words(code);
         methods(code);
         room();
+        neverThrows();
         CHECK.end();
     }
 
@@ -110,6 +111,29 @@ public final class LanguageTest {
             }
         }
         CHECK.holds("methods stay short: " + tooLong, tooLong.isEmpty());
+    }
+
+    /** Numbers of all sizes for all calls, in any order: what would be thrown ends the test. */
+    private static void neverThrows() throws Exception {
+        int[] odd = {Integer.MIN_VALUE, Integer.MIN_VALUE + 1, -129, -21, -2, -1, 0, 1, 2, 3, 4, 5, 6, 7, 8, 9, 10, 15, 23, 24, 31, 32, 33,
+            40, 41, 63, 64, 99, 100, 127, 128, 255, 256, 1 << 16, 1 << 30, Integer.MAX_VALUE - 1, Integer.MAX_VALUE};
+        var random = new java.util.Random(7);
+        var calls = ThreeStrangers.class.getMethods();
+        Arrays.sort(calls, java.util.Comparator.comparing(Object::toString));
+        ThreeStrangers x = new ThreeStrangers();
+        for (int i = 0; i < 300_000; i++) {
+            x = i % 500 == 0 ? new ThreeStrangers() : x;
+            var call = calls[random.nextInt(calls.length)];
+            if (call.getDeclaringClass() == ThreeStrangers.class) {
+                Object[] numbers = new Object[call.getParameterCount()];
+                for (int k = 0; k < numbers.length; k++) {
+                    int number = random.nextInt(3) == 0 ? odd[random.nextInt(odd.length)] : random.nextInt(8);
+                    numbers[k] = call.getParameterTypes()[k] == long.class ? (Object) (number * 65537L) : (Object) number;
+                }
+                call.invoke(x, numbers);
+            }
+        }
+        CHECK.holds("no call threw", true);
     }
 
     /** What 512 of the dearest calls make: nothing but a coachman each, all of it far below the one room. */

@@ -135,6 +135,10 @@ public final class ShelvesTest {
         for (int[] n : none) {
             CHECK.due("none", x.element(n[0], n[1]), 0);
         }
+        x.row(3, 3, 40);
+        x.set(3, 39, Long.MIN_VALUE);
+        CHECK.due("the last of all", x.element(3, 39), Long.MIN_VALUE);
+        CHECK.due("behind the last of all", x.element(3, 40), 0);
         for (int what = 12; what < 17; what++) {
             CHECK.due("nothing is refused", x.status(what), 0);
         }

@@ -165,7 +165,8 @@ public final class TownTest {
             "strange 0 1 since 1", "strange 1 1", "strange 7 1", "seats 1", "seats 5", "seats 3 3", "seats x", "memory 100",
             "memory", "memory 9 9", "met", "met ;", "met 0 0", "met 0 1 0", "met 0 2", "met 0 1 x", "met 000", "Person 1 1",
             "person,1 1", "person 1,1", "person -1 1", "person 1 1.", "strange 0 1;know 0 3", "person 1 1;know 0 2;met 3",
-            "know 0 10", "since 1", "seats 3; ;", "person 1 1;strange 0 1;seats 9"};
+            "know 0 10", "since 1", "seats 3; ;", "person 1 1;strange 0 1;seats 9", "personz 1 1", "zerson 1 1", "get 0", "mez 0",
+            "seats 3z", "seats 3 z", "met 0a", "met 0/", "met 0:", "met`0", "met{0"};
         int[] places = {0, 3, 6, 8, 9, 11, 13, 0, 0, 0,
             0, 7, 7, 9, 7, 9, 11,
             11, 11, 4, 6, 7, 5, 7, 9,
@@ -173,7 +174,8 @@ public final class TownTest {
             12, 10, 8, 6, 6, 8, 6, 7,
             6, 9, 3, 4, 6, 8, 6, 8, 4, 0,
             6, 8, 7, 10, 19, 24,
-            7, 0, 9, 29};
+            7, 0, 9, 29, 0, 0, 0, 0,
+            7, 8, 5, 5, 5, 3, 3};
         CHECK.due("as many places", texts.length, places.length);
         for (int i = 0; i < texts.length; i++) {
             fault(x, texts[i], places[i]);
