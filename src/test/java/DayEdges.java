@@ -28,13 +28,14 @@ final class DayEdges {
         day();
     }
 
-    /** A call of a shelf alone, or with more numbers behind it, that wants a coachman there. */
-    static void wantsMan(Edges e, String call, String more) {
+    /** A call of a shelf, with more numbers behind it or not, that wants a coachman there; with steps on what else is bad. */
+    static void wantsMan(Edges e, String call, String more, String... bad) {
         String[] men = {"crowd(3)", "coachman(0, 1, 0)", "row(1, 2, 3)", "coachman(7, 5, 9)"};
         e.sentence("BAD;");
-        for (String bad : new String[] {"-1", "8", "MIN", "MAX", "256"}) {
-            e.run(ShelfEdges.and(men, call + "(" + bad + more + ") = -2"));
+        for (String shelf : new String[] {"-1", "8", "MIN", "MAX", "256"}) {
+            e.run(ShelfEdges.and(men, call + "(" + shelf + more + ") = -2"));
         }
+        e.run(ShelfEdges.and(men, bad));
         e.sentence("OTHER;");
         for (int sort = 0; sort <= 4; sort++) {
             e.run("crowd(3)", "row(0, " + sort + ", 0)", "row(7, " + sort + ", 40)", call + "(0" + more + ") = -3", call + "(7" + more + ") = -3");
@@ -182,10 +183,8 @@ final class DayEdges {
         e.sentence("The i-th coach of it (bits).");
         e.run("crowd(7)", "ask(0, 2)", "coachman(7, 1, 0)", "coach(7, 0) = 3", "coach(7, 1) = 12", "coach(7, 2) = 48", "coach(7, 3) = -5");
         e.run(ShelfEdges.and(FOUR, "coach(0, 0) = 3", "coach(0, 1) = 12", "know(0, 1, 0)", "coach(0, 0) = 5", "coach(0, 1) = 10"));
-        wantsMan(e, "coach", ", 0");
-        e.promise(25);
-        e.run("crowd(3)", "coachman(0, 1, 0)", "row(1, 0, 0)", "coach(0, -1) = -2", "coach(0, MIN) = -2", "coach(1, -1) = -2", "coach(2, -1) = -2",
-            "coach(8, 1) = -2", "coach(1, 9) = -3", "coach(2, 9) = -4");
+        wantsMan(e, "coach", ", 0", "coach(0, -1) = -2", "coach(0, MIN) = -2", "coach(1, -1) = -2", "coach(2, -1) = -2", "coach(8, 9) = -2",
+            "coach(1, 9) = -3", "coach(2, 9) = -4");
         e.sentence("STUCK: there are not so many.");
         e.run("coachman(0, 1, 0)", "coach(0, 0) = -5", "crowd(2)", "coach(0, 0) = -5", "person(0, 0)", "coach(0, 0) = 7", "coach(0, 1) = -5",
             "coach(0, 7) = -5", "coach(0, MAX) = -5");
@@ -206,9 +205,8 @@ final class DayEdges {
         e.sentence("WAITING of one (NONE: of all).");
         e.run(ShelfEdges.and(FOUR, "waits(0, 0) = 1", "waits(0, 1) = 0", "waits(0, 2) = 21", "waits(0, 3) = 0", "waits(0, -1) = 22", "waits(7, -1) = 66"));
         e.run("coachman(0, 1, 0)", "waits(0, -1) = 0", "waits(0, 0) = -2", "person(23, 9)", "waits(0, -1) = 9", "waits(0, 0) = 9");
-        wantsMan(e, "waits", ", 0");
-        e.run("crowd(3)", "coachman(0, 1, 0)", "row(1, 0, 0)", "waits(0, -2) = -2", "waits(0, 3) = -2", "waits(0, MIN) = -2", "waits(0, MAX) = -2",
-            "waits(1, 3) = -2", "waits(2, -2) = -2", "waits(8, -1) = -2", "waits(1, -1) = -3", "waits(2, -1) = -4");
+        wantsMan(e, "waits", ", 0", "waits(0, -2) = -2", "waits(0, 3) = -2", "waits(0, MIN) = -2", "waits(0, MAX) = -2", "waits(1, 3) = -2",
+            "waits(2, -2) = -2", "waits(8, -1) = -2", "waits(1, -1) = -3", "waits(2, -1) = -4");
     }
 
     private void head() {
@@ -232,6 +230,5 @@ final class DayEdges {
         e.run("crowd(7)", "ask(0, 2)", "coachman(7, 1, 0)", "day(7) = 3", "status(3) = 18", "status(4) = 3", "status(5) = 1", "day(7) = 3",
             "status(4) = 6", "knownOf(0, 1) = 0", "status(6) = 0");
         wantsMan(e, "day", "");
-        e.run("crowd(3)", "day(8) = -2", "day(0) = -4", "row(0, 0, 0)", "day(0) = -3", "status(5) = 0", "status(4) = 0");
     }
 }

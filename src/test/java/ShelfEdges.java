@@ -99,7 +99,7 @@ final class ShelfEdges {
         e.promise(2);
         e.sentence("SHELF s holds a new ROW: 1.");
         e.run("row(0, 0, 0) = 1", "holds(0) = 0", "row(7, 4, 40) = 1", "holds(7) = 4");
-        e.run("row(2, 3, 2)", "set(2, 1, 9)", "row(2, 3, 2) = 1", "element(2, 1) = 0");
+        e.run("row(2, 3, 2)", "set(2, 0, 8)", "set(2, 1, 9)", "row(2, 3, 2) = 1", "element(2, 0) = 0", "element(2, 1) = 0");
         e.run("row(2, 3, 2)", "set(2, 1, 9)", "row(2, 3, 1) = 1", "set(2, 1, 1) = -2", "row(2, 3, 2) = 1", "element(2, 1) = 0");
         e.run("coachman(2, 1, 0)", "row(2, 0, 1) = 1", "set(2, 0, 1) = 1", "days(2) = -3");
         e.sentence("BAD.");

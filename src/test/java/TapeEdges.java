@@ -95,9 +95,16 @@ final class TapeEdges {
             e.run("\"seats 3\"", "feed(" + b + ") = 8", "town() = " + atEnd);
             int atBegin = b == ' ' ? 1 : -20;
             e.run("feed(" + b + ") = 1", "\"seats 3\"", "town() = " + atBegin);
-            int inWord = b == 'a' ? 1 : -20;
-            e.run("\"se\"", "feed(" + b + ") = 3", "\"ts 3\"", "town() = " + inWord);
+            inWord(b, "", 's', "eats 3");
+            inWord(b, "se", 'a', "ts 3");
+            inWord(b, "seat", 's', " 3");
         }
+    }
+
+    /** A byte in a word, in the place of the only one that makes it a word of a town. */
+    private void inWord(int b, String ahead, char right, String behind) {
+        int place = b == ' ' && ahead.isEmpty() ? 1 : 0;
+        e.run("\"" + ahead + "\"", "feed(" + b + ")", "\"" + behind + "\"", "town() = " + (b == right ? 1 : -20 - place));
     }
 
     private void statements() {

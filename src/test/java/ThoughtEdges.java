@@ -32,6 +32,9 @@ final class ThoughtEdges {
         e.run("person(0, 9)", "person(0, 9)", "person(0, 9)", "person(0, 9)", "person(0, 9)", "person(0, 9)", "person(0, 9)", "meet(127)",
             "least(0) = 1512", "least(1) = 0", "know(0, 1, -1)", "least(0) = 1512", "ask(0, 2)", "least(0) = 1512+-432", "least(1) = 1");
         e.run("person(0, 9)", "person(23, 9)", "ask(0, 2)", "least(0) = 207", "know(0, 1, 0)", "least(0) = 216+9");
+        // who comes last need not be of the greatest number, nor who ride be neighbours
+        e.run("person(23, 9)", "person(0, 9)", "ask(0, 2)", "least(0) = 207", "least(1) = 1");
+        e.run("person(0, 9)", "person(0, 9)", "person(0, 9)", "ask(0, 2)", "know(0, 1, 0)", "know(1, 2, 0)", "least(0) = 216", "least(1) = 1");
         // to let 0 1 go at once would leave 2 alone
         e.run("person(0, 0)", "person(0, 9)", "person(1, 9)", "ask(0, 2)", "least(0) = 9", "least(1) = 1", "coachman(0, 1, 0)",
             "waits(0, -1) = 207");
@@ -81,6 +84,9 @@ final class ThoughtEdges {
             e.run("crowd(" + n + ")", "ever(0) = " + dueOfThree[n][0], "ever(1) = " + dueOfThree[n][1], "ask(0, 4)", "ever(0) = " + dueOfFour[n][0],
                 "ever(1) = " + dueOfFour[n][1], "ask(0, 2)", "ever(0) = " + pairs, "ever(1) = " + pairs);
         }
+        // each asked first, whatever was asked ahead
+        e.run("crowd(7)", "ever(1) = 5", "ever(0) = 7", "ever(1) = 5", "meet(7)", "ever(1) = 4");
+        e.run("crowd(6)", "ever(1) = 2", "know(0, 1, 0)", "ever(1) = 2", "ever(0) = 4");
         e.run("crowd(7)", "meet(127)", "ever(0) = 0", "ever(1) = 0", "ask(0, 2)", "ever(0) = 0", "ever(1) = 0", "know(3, 5, -1)", "ever(0) = 1",
             "ever(1) = 1");
         // 0 1 2 and 0 3 4 and 1 3 5 and 2 4 5 use each pair once; 0 1 3 alone may leave none of the first three
@@ -144,6 +150,8 @@ final class ThoughtEdges {
         e.sentence("The two STRANGERS (10 times P and Q, P below Q) that CLOSE most, of several the first.");
         e.run("crowd(7)", "worst() = 1", "know(0, 1, 0)", "worst() = 23", "ask(0, 2)", "worst() = 2", "know(0, 2, 0)", "worst() = 3");
         e.run("crowd(7)", "meet(63)", "know(6, 0, 0)", "know(6, 1, 0)", "know(6, 2, 0)", "know(6, 3, 0)", "know(6, 4, 0)", "worst() = 56");
+        // 4 with any other closes two, all the rest one
+        e.run("crowd(5)", "know(0, 1, 0)", "know(2, 3, 0)", "worst() = 4", "know(0, 4, 0)", "worst() = 14");
         // without a group all close none, and the first two that are strangers are it
         e.run("crowd(2)", "worst() = 1", "ask(0, 4)", "worst() = 1", "person(0, 0)", "know(0, 1, 0)", "worst() = 2", "know(0, 2, 0)", "worst() = 12");
         e.sentence("STUCK: there are no STRANGERS.");
@@ -176,8 +184,8 @@ final class ThoughtEdges {
         // 2 3 is in both groups that are left
         e.run("crowd(4)", "sure(15) = 1", "know(0, 1, 0)", "sure(15) = 23", "know(2, 3, 0)", "sure(15) = 2", "know(0, 2, 0)", "sure(15) = 3");
         // a pair of the group comes ahead of one that is in none
-        e.run("crowd(5)", "meet(15)", "know(0, 1, -1)", "know(2, 3, -1)", "know(0, 4, 0)", "know(1, 4, 0)", "sure(31) = 23", "isGroup(28) = 1",
-            "ask(0, 4)", "sure(31) = 1");
+        e.run("crowd(5)", "fits(31) = 388", "meet(15)", "know(0, 1, -1)", "know(2, 3, -1)", "know(0, 4, 0)", "know(1, 4, 0)", "sure(31) = 23",
+            "isGroup(28) = 1", "ask(0, 4)", "sure(31) = 1");
         e.promise(37);
         e.sentence("SURE.");
         e.run("crowd(7)", "sure(3) = 1", "ask(0, 2)", "sure(31) = 1", "know(0, 1, 0)", "sure(31) = 2", "sure(96) = 56");

@@ -49,16 +49,17 @@ final class TruthEdges {
             "judge(0, 3) = 0", "set(0, 0, 120)", "judge(0, 1) = -1", "judge(0, 2) = 1");
     }
 
-    /** What all three calls of a told day refuse alike. */
-    private void wantsRow(String call, String more, String bad, String nothing, String fewer) {
+    /** What all three calls of a told day refuse alike, as their sentences say it. */
+    private void wantsRow(String call, String more, String bad, String fewer, String... alsoBad) {
         e.sentence(bad);
         for (String numbers : new String[] {"-1, 0", "8, 0", "MIN, 0", "MAX, 0", "0, -1", "0, 8", "0, MIN", "0, MAX", "1, 8", "1, -1", "2, 8", "2, -1",
             "7, 8", "8, 8"}) {
             e.run(ShelfEdges.and(TOLD, call + "(" + numbers + more + ") = -2", "status(5) = 0"));
         }
+        e.run(ShelfEdges.and(TOLD, alsoBad));
         e.sentence("OTHER;");
         e.run(ShelfEdges.and(TOLD, call + "(1, 0" + more + ") = -3", call + "(1, 7" + more + ") = -3"));
-        e.sentence(nothing);
+        e.sentence("NOTHING;");
         e.run(ShelfEdges.and(TOLD, call + "(2, 0" + more + ") = -4", call + "(6, 7" + more + ") = -4"));
         e.sentence(fewer);
         e.run(ShelfEdges.and(TOLD, call + "(0, 4" + more + ") = -2", call + "(0, 7" + more + ") = -2", "set(0, 0, 0)", call + "(0, 4" + more + ") = -2"));
@@ -74,7 +75,7 @@ final class TruthEdges {
         e.run("row(0, 0, 0)", "judge(0, 0) = -1", "row(0, 0, 7)", "judge(0, 7) = 0", "judge(0, 0) = -1");
         e.run("crowd(7)", "ask(0, 2)", "row(0, 0, 7)", "set(0, 0, 3)", "set(0, 1, 12)", "set(0, 2, 48)", "judge(0, 7) = 3", "set(0, 3, 64)",
             "judge(0, 7) = 3", "judge(0, 3) = -1");
-        wantsRow("judge", "", "BAD SHELF, n;", "NOTHING;", "BAD: fewer elements.");
+        wantsRow("judge", "", "BAD SHELF, n;", "BAD: fewer elements.");
     }
 
     private void behind() {
@@ -85,10 +86,9 @@ final class TruthEdges {
         e.run("row(0, 0, 0)", "behind(0, 0, 0) = 0", "behind(0, 0, 1) = 0");
         e.run("crowd(3)", "row(0, 0, 1)", "set(0, 0, 7)", "behind(0, 1, 0) = 0", "behind(0, 1, 1) = 0");
         e.run("crowd(7)", "ask(0, 2)", "row(0, 0, 3)", "set(0, 0, 65)", "set(0, 1, 6)", "set(0, 2, 24)", "behind(0, 3, 0) = 32", "behind(0, 3, 1) = 18");
-        wantsRow("behind", ", 0", "BAD, also what;", "NOTHING;", "BAD likewise;");
-        e.run(ShelfEdges.and(TOLD, "behind(0, 0, -1) = -2", "behind(0, 0, 2) = -2", "behind(0, 0, MIN) = -2", "behind(0, 0, MAX) = -2",
-            "behind(1, 0, 2) = -2", "behind(2, 0, 2) = -2", "behind(0, 3, 2) = -2", "behind(1, 0, 1) = -3", "behind(2, 0, 1) = -4",
-            "behind(0, 4, 1) = -2"));
+        wantsRow("behind", ", 0", "BAD, also what;", "BAD likewise;", "behind(0, 0, -1) = -2", "behind(0, 0, 2) = -2", "behind(0, 0, MIN) = -2",
+            "behind(0, 0, MAX) = -2", "behind(1, 0, 2) = -2", "behind(2, 0, 2) = -2", "behind(0, 3, 2) = -2", "behind(1, 0, 1) = -3",
+            "behind(2, 0, 1) = -4", "behind(0, 4, 1) = -2");
         e.sentence("STUCK: it may not be.");
         e.run(ShelfEdges.and(TOLD, "behind(0, 3, 0) = -5", "behind(0, 3, 1) = -5", "behind(7, 1, 0) = -5", "behind(7, 7, 1) = -5", "know(0, 1, 3)",
             "behind(0, 1, 0) = -5", "behind(0, 1, 1) = -5", "behind(0, 0, 0) = 127"));
@@ -101,7 +101,7 @@ final class TruthEdges {
             "knownOf(0, 3) = -1", "rides(0, 0) = 0", "status(4) = 2", "status(5) = 2"));
         e.run("row(0, 0, 0)", "rides(0, 0) = 0", "status(4) = 0", "status(5) = 1");
         e.run("crowd(2)", "row(7, 3, 1)", "set(7, 0, 3)", "ask(0, 2)", "rides(7, 1) = 1", "knownOf(0, 1) = 0", "rides(7, 1) = -5", "status(5) = 1");
-        wantsRow("rides", "", "BAD;", "NOTHING;", "BAD;");
+        wantsRow("rides", "", "BAD;", "BAD;");
         e.sentence("STUCK likewise.");
         e.run(ShelfEdges.and(TOLD, "rides(0, 3) = -5", "status(3) = 21", "status(4) = 0", "status(5) = 0", "rides(7, 1) = -5", "rides(7, 7) = -5",
             "rides(0, 2) = 2", "rides(0, 1) = -5", "rides(0, 2) = -5", "status(5) = 1"));
@@ -208,7 +208,11 @@ final class TruthEdges {
         e.sentence("SEED becomes v: the one ahead.");
         e.run("seed(0) = 1", "seed(-1) = 0", "seed(MIN) = -1", "seed(MAX) = MIN", "seed(-2) = MAX", "seed(-6) = -2", "status(8) = -6", "status(12) = 0",
             "status(16) = 0");
-        e.run("seed(5) = 1", "come(1) = 1", "personOf(0, 0)", "seed(5)", "crowd(0)", "status(8) = 5");
+        Draws draws = new Draws(5);
+        int hour = draws.below(24);
+        int cost = draws.below(10);
+        e.run("seed(5) = 1", "come(1) = 1", "personOf(0, 0) = " + hour, "personOf(0, 1) = " + cost, "seed(5) = " + (int) draws.seed, "come(1) = 1",
+            "personOf(1, 0) = " + hour, "personOf(1, 1) = " + cost);
     }
 
     private void image() {
